@@ -41,19 +41,19 @@ public final class PoleRiver {
     private static final int FAULTY = 9;
 
     private final Tray[] trays = new Tray[TRAYS];
-    private final Text text = new Text();
-    private final RiverReader riverReader = new RiverReader(text);
-    private final RuleReader ruleReader = new RuleReader(text);
-    private final Thinker thinker = new Thinker();
-    private final Ground ground = new Ground();
-    private final Scout scout = new Scout(ground);
-    private final Game game = new Game(thinker, ground);
     private final State now = new State();
     private final State[] marks = new State[MARKS];
-    private final long[] guess = new long[SETS];
-    private final int[] lastGame = new int[Game.TOLD];
     private River spareRiver = new River();
     private Rule spareRule = new Rule();
+    private final Text text = new Text();
+    private final RiverReader riverReader = new RiverReader(text, spareRiver);
+    private final RuleReader ruleReader = new RuleReader(text, spareRule, now.river);
+    private final Thinker thinker = new Thinker();
+    private final Ground ground = new Ground(now.river);
+    private final Scout scout = new Scout(ground, now.river);
+    private final Game game = new Game(thinker, ground, now);
+    private final long[] guess = new long[SETS];
+    private final int[] lastGame = new int[Game.TOLD];
     private boolean hasPlayed = false;
     private int markCount = 0;
     private int status = FINE;
@@ -212,7 +212,7 @@ public final class PoleRiver {
             case 1: return answer(r.chances[bar]);
             case 2: return answer(r.goes[bar]);
             case 3: return answer(r.comes[bar]);
-            case 4: return answer(r.sizes[bar]);
+            case 4: return answer(r.cellsOf(bar));
             default: return r.least[bar] == NONE ? fail(NO_SUCH) : answer(r.least[bar]);
         }
     }
@@ -236,7 +236,7 @@ public final class PoleRiver {
         if (!isCell(cell) || !isSet(set)) {
             return fail(IMPOSSIBLE);
         }
-        return answer(now.river.depthOn(now.day, cell, set));
+        return answer(now.river.depthAt(now.river.stageOn(now.day), cell, set));
     }
 
     public int open(int cell) {
@@ -547,7 +547,8 @@ public final class PoleRiver {
         if (!isCell(from) || !isCell(to) || seed < 0 || seed > LAST_SEED) {
             return fail(IMPOSSIBLE);
         }
-        int end = game.playOut(now, from, to, seed);
+        game.begin(now, from, to, seed);
+        int end = game.follow();
         System.arraycopy(game.tally, 0, lastGame, 0, Game.TOLD);
         hasPlayed = true;
         return answer(end);
@@ -567,7 +568,8 @@ public final class PoleRiver {
         }
         int so = 0;
         for (int k = 0; k < many; k++) {
-            if (game.playOut(now, from, to, seed + k) == how) {
+            game.begin(now, from, to, seed + k);
+            if (game.follow() == how) {
                 so++;
             }
         }
@@ -927,7 +929,6 @@ public final class PoleRiver {
         final int[] chances = new int[BARS];
         final int[] goes = new int[BARS];
         final int[] comes = new int[BARS];
-        final int[] sizes = new int[BARS];
         final int[] least = new int[BARS];
 
         River() {
@@ -971,7 +972,6 @@ public final class PoleRiver {
             System.arraycopy(other.chances, 0, chances, 0, BARS);
             System.arraycopy(other.goes, 0, goes, 0, BARS);
             System.arraycopy(other.comes, 0, comes, 0, BARS);
-            System.arraycopy(other.sizes, 0, sizes, 0, BARS);
             System.arraycopy(other.least, 0, least, 0, BARS);
         }
 
@@ -992,14 +992,24 @@ public final class PoleRiver {
             return NONE;
         }
 
+        int cellsOf(int bar) {
+            int count = 0;
+            for (int cell = 0; cell < cellCount(); cell++) {
+                if (owners[cell] == bar) {
+                    count++;
+                }
+            }
+            return count;
+        }
+
         int stageOn(int day) {
             return day >= 0 && day < STAGES ? stages[day] : 0;
         }
 
-        int depthOn(int day, int cell, int set) {
+        int depthAt(int stage, int cell, int set) {
             int bar = owners[cell];
             int taken = bar != NONE && (set >> bar & 1) == 1 ? takes[bar] : 0;
-            return depths[cell] + stageOn(day) - taken;
+            return depths[cell] + stage - taken;
         }
 
         /** How likely of thirty-two a pole reads so where it is so deep. */
@@ -1069,15 +1079,16 @@ public final class PoleRiver {
 
     private static final class RiverReader {
         final Text text;
-        River river = null;
+        River river;
         int rows = 0;
         boolean hasStage = false;
         boolean hasBoat = false;
         boolean hasPole = false;
         boolean hasColour = false;
 
-        RiverReader(Text text) {
+        RiverReader(Text text, River river) {
             this.text = text;
+            this.river = river;
         }
 
         boolean parse(int n, River into) {
@@ -1171,7 +1182,6 @@ public final class PoleRiver {
                 return text.fail(3);
             }
             river.names[bar] = text.word;
-            river.sizes[bar] = 0;
             river.least[bar] = NONE;
             text.advance();
             if (!text.takePair("takes", 1, 9)) {
@@ -1234,7 +1244,6 @@ public final class PoleRiver {
                         return false;
                     }
                     river.owners[cell] = bar;
-                    river.sizes[bar]++;
                     if (river.least[bar] == NONE || cell < river.least[bar]) {
                         river.least[bar] = cell;
                     }
@@ -1364,12 +1373,14 @@ public final class PoleRiver {
     private static final class RuleReader {
         final Text text;
         final int[] opened = new int[NESTED];
-        Rule rule = null;
-        River river = null;
+        Rule rule;
+        River river;
         int deep = 0;
 
-        RuleReader(Text text) {
+        RuleReader(Text text, Rule rule, River river) {
             this.text = text;
+            this.rule = rule;
+            this.river = river;
         }
 
         boolean parse(int n, Rule into, River names) {
@@ -1565,8 +1576,10 @@ public final class PoleRiver {
 
         /** A SOUNDING; false, and nothing changed, if it can't be. */
         boolean hearPole(River river, long[] parts, int day, int cell, int read) {
+            int stage = river.stageOn(day);
             for (int set = 0; set < SETS; set++) {
-                weights[set] = parts[set] * river.likelyRead(read, river.depthOn(day, cell, set));
+                int depth = river.depthAt(stage, cell, set);
+                weights[set] = parts[set] * river.likelyRead(read, depth);
             }
             return shareOut(parts);
         }
@@ -1642,8 +1655,8 @@ public final class PoleRiver {
         int chosen = NONE;
         int chosenMinutes = 0;
         long chosenParts = 0L;
-        private River river = null;
-        private int day = 0;
+        private River river;
+        private int stage = 0;
         private int need = 0;
         private int from = 0;
         private int to = 0;
@@ -1651,9 +1664,13 @@ public final class PoleRiver {
         private long leftEdge = 0L;
         private long rightEdge = 0L;
 
-        void look(River newRiver, int newDay, int off) {
+        Ground(River river) {
+            this.river = river;
+        }
+
+        void look(River newRiver, int day, int off) {
             river = newRiver;
-            day = newDay;
+            stage = river.stageOn(day);
             need = river.draft - off;
             openCells = 0L;
             leftEdge = 0L;
@@ -1674,19 +1691,15 @@ public final class PoleRiver {
 
         /** 2: OPEN, 1: of its BAR, 0: SHUT. */
         int kindOf(int cell) {
-            if (passes(cell, SETS - 1)) {
+            if (river.depthAt(stage, cell, SETS - 1) >= need) {
                 return 2;
             }
-            return passes(cell, 0) ? 1 : 0;
-        }
-
-        private boolean passes(int cell, int set) {
-            return river.depthOn(day, cell, set) >= need;
+            return river.depthAt(stage, cell, 0) >= need ? 1 : 0;
         }
 
         int firstStruck(long[] cells, int many, int set) {
             for (int k = 0; k < many; k++) {
-                if (!passes((int) cells[k], set)) {
+                if (river.depthAt(stage, (int) cells[k], set) < need) {
                     return k;
                 }
             }
@@ -1922,17 +1935,18 @@ public final class PoleRiver {
         final Ground ground;
         // row k: the sets' weights while k SOUNDINGS are left
         final long[][] weights = new long[SOUNDINGS + 1][SETS];
-        River river = null;
-        int day = 0;
+        River river;
+        int stage = 0;
         boolean canSound = false;
 
-        Scout(Ground ground) {
+        Scout(Ground ground, River river) {
             this.ground = ground;
+            this.river = river;
         }
 
         void begin(State state, int k) {
             river = state.river;
-            day = state.day;
+            stage = river.stageOn(state.day);
             copyParts(state.parts, weights[k]);
             canSound = false;
             for (int bar = 0; bar < river.bars; bar++) {
@@ -1946,7 +1960,7 @@ public final class PoleRiver {
         }
 
         /** WORTH of k SOUNDINGS; it and worthAt call one another, k less by one each time. */
-        long worthOf(int k) {
+        private long worthOf(int k) {
             if (k <= 0 || !canSound) {
                 return ground.bestOf(weights[Math.max(0, k)]);
             }
@@ -1979,7 +1993,7 @@ public final class PoleRiver {
          * are taken as one, as WORTH grows as its weights do: that spares most of the work.
          */
         private long worthAt(int bar, int k) {
-            int without = river.depthOn(day, river.least[bar], 0);
+            int without = river.depthAt(stage, river.least[bar], 0);
             int with = without - river.takes[bar];
             int onlyWith = 0;
             int onlyWithout = 0;
@@ -2034,20 +2048,22 @@ public final class PoleRiver {
         final int[] tally = new int[TOLD];
         private final long[] parts = new long[SETS];
         private final int[] turnsLeft = new int[LINES];
-        private River river = null;
-        private Rule rule = null;
+        private River river;
+        private Rule rule;
         private int from = 0;
         private int to = 0;
         private int day = 0;
         private int off = 0;
         private int seed = 0;
 
-        Game(Thinker thinker, Ground ground) {
+        Game(Thinker thinker, Ground ground, State state) {
             this.thinker = thinker;
             this.ground = ground;
+            river = state.river;
+            rule = state.rule;
         }
 
-        int playOut(State state, int newFrom, int newTo, int newSeed) {
+        void begin(State state, int newFrom, int newTo, int newSeed) {
             river = state.river;
             rule = state.rule;
             from = newFrom;
@@ -2059,7 +2075,6 @@ public final class PoleRiver {
             Arrays.fill(tally, 0);
             tally[WENT] = NONE;
             tally[TRUE] = drawTruth();
-            return followRule();
         }
 
         private int draw(int n) {
@@ -2080,7 +2095,8 @@ public final class PoleRiver {
             return last;
         }
 
-        private int followRule() {
+        /** Plays what was begun: how it ends. */
+        int follow() {
             int line = 0;
             // a STEP counts, and ends come at most nine times for each: this bound is never met
             for (int k = 0; k < 1000000; k++) {
@@ -2159,7 +2175,7 @@ public final class PoleRiver {
             }
             tally[MINUTES] += 30;
             tally[SOUNDED]++;
-            int read = river.depthOn(day, cell, tally[TRUE]);
+            int read = river.depthAt(river.stageOn(day), cell, tally[TRUE]);
             int drawn = draw(32);
             if (drawn >= 2 * river.pole) {
                 read += drawn < 16 + river.pole ? 1 : -1;
