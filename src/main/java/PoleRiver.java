@@ -869,7 +869,7 @@ public final class PoleRiver {
             if (kind != NUMBER) {
                 return failHere();
             }
-            return number >= least && number <= most || fail(4);
+            return (number >= least && number <= most) || fail(4);
         }
 
         boolean takeNumber(int least, int most) {
@@ -886,7 +886,7 @@ public final class PoleRiver {
         }
 
         boolean isName() {
-            return kind == WORD && word != 0L && !isReserved() || failHere();
+            return (kind == WORD && word != 0L && !isReserved()) || failHere();
         }
 
         private boolean isReserved() {
@@ -1008,7 +1008,7 @@ public final class PoleRiver {
 
         int depthAt(int stage, int cell, int set) {
             int bar = owners[cell];
-            int taken = bar != NONE && (set >> bar & 1) == 1 ? takes[bar] : 0;
+            int taken = bar != NONE && ((set >> bar) & 1) == 1 ? takes[bar] : 0;
             return depths[cell] + stage - taken;
         }
 
@@ -1046,7 +1046,7 @@ public final class PoleRiver {
         }
 
         int turnMinutes(int ahead, int heading) {
-            int eighths = heading - ahead & 7;
+            int eighths = (heading - ahead) & 7;
             return turn * (eighths > 4 ? 8 - eighths : eighths);
         }
 
@@ -1545,7 +1545,7 @@ public final class PoleRiver {
             for (int set = 0; set < river.setCount(); set++) {
                 weights[set] = 1L;
                 for (int bar = 0; bar < river.bars; bar++) {
-                    boolean in = (set >> bar & 1) == 1;
+                    boolean in = ((set >> bar) & 1) == 1;
                     weights[set] *= in ? river.chances[bar] : 16 - river.chances[bar];
                 }
             }
@@ -1555,6 +1555,7 @@ public final class PoleRiver {
         /** A DAY goes by, with one BAR (or NONE) that GOES with so many sixteenths more. */
         void passDay(River river, long[] parts, int brushed, int more) {
             copyParts(parts, weights);
+            int sets = river.setCount();
             for (int bar = 0; bar < river.bars; bar++) {
                 int goes = river.goes[bar];
                 if (bar == brushed) {
@@ -1562,7 +1563,7 @@ public final class PoleRiver {
                 }
                 int comes = river.comes[bar];
                 int bit = 1 << bar;
-                for (int set = 0; set < river.setCount(); set++) {
+                for (int set = 0; set < sets; set++) {
                     if ((set & bit) == 0) {
                         long without = weights[set];
                         long with = weights[set | bit];
@@ -1588,7 +1589,7 @@ public final class PoleRiver {
         boolean seeWater(River river, long[] parts, int cell, boolean there) {
             int bar = river.owners[cell];
             for (int set = 0; set < SETS; set++) {
-                boolean is = bar != NONE && (set >> bar & 1) == 1;
+                boolean is = bar != NONE && ((set >> bar) & 1) == 1;
                 weights[set] = parts[set] * (is == there ? river.water : 16 - river.water);
             }
             return shareOut(parts);
@@ -1619,7 +1620,7 @@ public final class PoleRiver {
         long partsWith(long[] parts, int bar) {
             long together = 0L;
             for (int set = 0; set < SETS; set++) {
-                if ((set >> bar & 1) == 1) {
+                if (((set >> bar) & 1) == 1) {
                     together += parts[set];
                 }
             }
@@ -1647,6 +1648,8 @@ public final class PoleRiver {
         private static final int[] BY_CELL = {5, 6, 7, 4, 0, 3, 2, 1};
 
         final boolean[] hasWay = new boolean[SETS];
+        final int[] leastSets = new int[SETS];
+        int leastCount = 0;
         final long[] sums = new long[SETS];
         final long[] barCells = new long[BARS];
         final int[] rest = new int[CELLS * 8];
@@ -1684,7 +1687,7 @@ public final class PoleRiver {
                 }
             }
             for (int y = 0; y < river.height; y++) {
-                leftEdge |= 1L << y * river.width;
+                leftEdge |= 1L << (y * river.width);
             }
             rightEdge = leftEdge << Math.max(0, river.width - 1);
         }
@@ -1710,8 +1713,14 @@ public final class PoleRiver {
         boolean search(int newFrom, int newTo) {
             from = newFrom;
             to = newTo;
+            leastCount = 0;
             for (int a = 0; a < river.setCount(); a++) {
-                hasWay[a] = hasWayByLess(a) || reaches(cellsBy(a));
+                hasWay[a] = hasWayByLess(a);
+                if (!hasWay[a] && reaches(cellsBy(a))) {
+                    hasWay[a] = true;
+                    leastSets[leastCount] = a;
+                    leastCount++;
+                }
             }
             // what all BARS gone do not open, nothing does
             return hasWay[river.setCount() - 1];
@@ -1719,7 +1728,7 @@ public final class PoleRiver {
 
         private boolean hasWayByLess(int a) {
             for (int bar = 0; bar < river.bars; bar++) {
-                if ((a >> bar & 1) == 1 && hasWay[a ^ 1 << bar]) {
+                if (((a >> bar) & 1) == 1 && hasWay[a ^ (1 << bar)]) {
                     return true;
                 }
             }
@@ -1729,7 +1738,7 @@ public final class PoleRiver {
         private long cellsBy(int a) {
             long cells = openCells;
             for (int bar = 0; bar < river.bars; bar++) {
-                if ((a >> bar & 1) == 1) {
+                if (((a >> bar) & 1) == 1) {
                     cells |= barCells[bar];
                 }
             }
@@ -1738,7 +1747,7 @@ public final class PoleRiver {
 
         private boolean reaches(long cells) {
             long goal = 1L << to;
-            long reached = 1L << from & cells;
+            long reached = (1L << from) & cells;
             if ((goal & cells) == 0L) {
                 return false;
             }
@@ -1754,18 +1763,19 @@ public final class PoleRiver {
 
         /** CELLS and all that are next to them; bits beyond the river may be set. */
         private long spread(long cells) {
-            long wide = cells | (cells & ~leftEdge) >>> 1 | (cells & ~rightEdge) << 1;
-            return wide | wide >>> river.width | wide << river.width;
+            long wide = cells | ((cells & ~leftEdge) >>> 1) | ((cells & ~rightEdge) << 1);
+            return wide | (wide >>> river.width) | (wide << river.width);
         }
 
-        /** The greatest CHANCE of all A with a way, of such weights of the sets; 0 without any. */
+        /**
+         * The greatest CHANCE of all A with a way, of such weights of the sets; 0 without any. Only
+         * the least A are looked at, as more BARS in it make no CHANCE greater.
+         */
         long bestOf(long[] weights) {
             sumUp(weights);
             long best = 0L;
-            for (int a = 0; a < river.setCount(); a++) {
-                if (hasWay[a]) {
-                    best = Math.max(best, sumWithout(a));
-                }
+            for (int k = 0; k < leastCount; k++) {
+                best = Math.max(best, sumWithout(leastSets[k]));
             }
             return best;
         }
@@ -1773,9 +1783,9 @@ public final class PoleRiver {
         /** Of each set the weights of all sets within it. */
         private void sumUp(long[] weights) {
             copyParts(weights, sums);
-            for (int bar = 0; bar < river.bars; bar++) {
-                int bit = 1 << bar;
-                for (int set = 0; set < river.setCount(); set++) {
+            int sets = river.setCount();
+            for (int bit = 1; bit < sets; bit <<= 1) {
+                for (int set = 0; set < sets; set++) {
                     if ((set & bit) != 0) {
                         sums[set] += sums[set ^ bit];
                     }
@@ -1784,7 +1794,7 @@ public final class PoleRiver {
         }
 
         private long sumWithout(int a) {
-            return sums[river.setCount() - 1 & ~a];
+            return sums[(river.setCount() - 1) & ~a];
         }
 
         /** SUREST, if search() found a way: its A, MINUTES and parts. */
@@ -1826,7 +1836,7 @@ public final class PoleRiver {
         private long likelyThere(int a) {
             long together = 0L;
             for (int bar = 0; bar < river.bars; bar++) {
-                if ((a >> bar & 1) == 1) {
+                if (((a >> bar) & 1) == 1) {
                     together += WHOLE - sumWithout(1 << bar);
                 }
             }
@@ -1846,7 +1856,7 @@ public final class PoleRiver {
             for (int round = 0; round < CELLS && stale != 0L; round++) {
                 long better = 0L;
                 for (int cell = 0; cell < river.cellCount(); cell++) {
-                    if ((stale >>> cell & 1L) == 1L && settle(cell, cells)) {
+                    if (((stale >>> cell) & 1L) == 1L && settle(cell, cells)) {
                         better |= 1L << cell;
                     }
                 }
@@ -1876,7 +1886,7 @@ public final class PoleRiver {
         /** Minutes from a CELL to the end if the step is by such a heading; its turn not counted. */
         private int minutesBy(int cell, int heading, long cells) {
             int next = river.beside(cell, heading);
-            if (next == NONE || (cells >>> next & 1L) == 0L) {
+            if (next == NONE || ((cells >>> next) & 1L) == 0L) {
                 return FAR;
             }
             int minutes = rest[next * 8 + heading];
@@ -1956,7 +1966,7 @@ public final class PoleRiver {
 
         /** What all weights come to: each SOUNDING makes them thirty-two times as many. */
         long wholeOf(int k) {
-            return canSound ? WHOLE << 5 * k : WHOLE;
+            return canSound ? WHOLE << (5 * k) : WHOLE;
         }
 
         /** WORTH of k SOUNDINGS; it and worthAt call one another, k less by one each time. */
@@ -2020,7 +2030,7 @@ public final class PoleRiver {
 
         private long worthBehind(int bar, int k, int likelyWith, int likelyWithout) {
             for (int set = 0; set < SETS; set++) {
-                int likely = (set >> bar & 1) == 1 ? likelyWith : likelyWithout;
+                int likely = ((set >> bar) & 1) == 1 ? likelyWith : likelyWithout;
                 weights[k - 1][set] = weights[k][set] * likely;
             }
             return worthOf(k - 1);
@@ -2189,7 +2199,7 @@ public final class PoleRiver {
                 return;
             }
             tally[MINUTES] += 5;
-            boolean is = (tally[TRUE] >> bar & 1) == 1;
+            boolean is = ((tally[TRUE] >> bar) & 1) == 1;
             boolean right = draw(16) < river.water;
             thinker.seeWater(river, parts, cell, is == right);
         }
@@ -2199,7 +2209,7 @@ public final class PoleRiver {
             tally[DAYS]++;
             day++;
             for (int bar = 0; bar < river.bars; bar++) {
-                boolean is = (tally[TRUE] >> bar & 1) == 1;
+                boolean is = ((tally[TRUE] >> bar) & 1) == 1;
                 if (draw(16) < (is ? river.goes[bar] : river.comes[bar])) {
                     tally[TRUE] ^= 1 << bar;
                 }
