@@ -1748,9 +1748,6 @@ public final class PoleRiver {
         private boolean reaches(long cells) {
             long goal = 1L << to;
             long reached = (1L << from) & cells;
-            if ((goal & cells) == 0L) {
-                return false;
-            }
             for (int k = 0; k < CELLS; k++) {
                 long more = spread(reached) & cells;
                 if (more == reached) {

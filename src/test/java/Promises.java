@@ -42,6 +42,8 @@ public final class Promises {
         playing();
         playingSteps();
         playingOn();
+        playedReadings();
+        playedColours();
         tallies();
         backToMarks();
         foreignRule();
@@ -1139,6 +1141,54 @@ public final class Promises {
         well("day 99 still", x, x.told(3), 99);
     }
 
+    private static int nextDraw(int s) {
+        return (s * 3541 + 8713) % 65536;
+    }
+
+    /**
+     * By 6 it is gone for certain (two days are waited), by 3 it is there (one), else neither, but
+     * with poles that are always or never right: those tell 5 from 4.
+     */
+    private static void playedReadings() {
+        String text = "size 3 2;row 9 5 9;bar a takes 1 chance 8 goes 0 comes 0;at a 1 0 to 1 0;pole ";
+        int[] poles = {0, 5, 12, 15, 16};
+        for (int pole : poles) {
+            PoleRiver x = on(text + pole + ";");
+            rule(x, "sound a;when there a 16;wait 1;end;when gone a 0;wait 2;end;");
+            for (int seed = 0; seed < 200; seed++) {
+                int s = nextDraw(seed);
+                boolean there = s / 8 % 1000 >= 500;
+                int drawn = nextDraw(s) / 8 % 32;
+                int more = drawn < 2 * pole ? 0 : drawn < 16 + pole ? 1 : -1;
+                int due = more == 1 && !there ? 2 : more == -1 && there ? 1 : 0;
+                if (pole == 0 || pole == 16) {
+                    due = there ? 1 : 2;
+                }
+                x.play(0, 2, seed);
+                due("days by pole " + pole + " seed " + seed, x.played(3), due);
+                due("TRUE by pole " + pole + " seed " + seed, x.played(4), there ? 1 : 0);
+            }
+        }
+    }
+
+    private static void playedColours() {
+        String text = "size 3 2;row 9 5 9;bar a takes 1 chance 8 goes 0 comes 0;at a 1 0 to 1 0;colour ";
+        int[] colours = {0, 5, 9, 12, 16};
+        for (int colour : colours) {
+            PoleRiver x = on(text + colour + ";");
+            rule(x, "colour a;when there a 9;wait 1;end;");
+            for (int seed = 0; seed < 100; seed++) {
+                int s = nextDraw(seed);
+                boolean there = s / 8 % 1000 >= 500;
+                boolean right = nextDraw(s) / 8 % 16 < colour;
+                boolean likelier = there == right == colour > 8;
+                x.play(0, 2, seed);
+                due("days by colour " + colour + " seed " + seed, x.played(3), likelier ? 1 : 0);
+                due("no SOUNDING", x.played(2), 0);
+            }
+        }
+    }
+
     /** What is TRUE behind 81 days from seed 0, by draws of its own. */
     private static int trueBehind81Days() {
         int s = 8713;
@@ -1147,7 +1197,7 @@ public final class Promises {
         int[] comes = {4, 0};
         for (int day = 0; day < 81; day++) {
             for (int b = 0; b < 2; b++) {
-                s = (s * 3541 + 8713) % 65536;
+                s = nextDraw(s);
                 if (s / 8 % 16 < ((is >> b & 1) == 1 ? goes[b] : comes[b])) {
                     is ^= 1 << b;
                 }
@@ -1170,7 +1220,7 @@ public final class Promises {
             well("tally " + how, x, x.tally(0, 2, 100, 30, how), due[how]);
         }
         x.play(0, 2, 4);
-        x.tally(0, 2, 0, 1, 0);
+        well("seed 0", x, x.tally(0, 2, 0, 1, 0), 1);
         well("played() is of play() alone", x, x.played(0), 130);
         well("one seed", x, x.tally(0, 2, 4, 1, 1), 1);
         none("no CELL", x, x.tally(6, 2, 0, 1, 0), 1);
