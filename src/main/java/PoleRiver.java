@@ -356,9 +356,7 @@ public final class PoleRiver {
         if (!ground.hasWay[a]) {
             return fail(NO_SUCH);
         }
-        int minutes = ground.soonestBy(a);
-        ground.keepWay(a);
-        return answer(minutes);
+        return answer(ground.keepWay(a));
     }
 
     public int surest(int from, int to) {
@@ -451,7 +449,7 @@ public final class PoleRiver {
     }
 
     public int marked(int from, int to, int many) {
-        if (!isCell(from) || !isCell(to) || many < 0 || many > now.river.bars) {
+        if (many < 0 || many > now.river.bars) {
             return fail(IMPOSSIBLE);
         }
         int wrong = choiceStatus(from, to);
@@ -1046,6 +1044,9 @@ public final class PoleRiver {
         }
 
         int turnMinutes(int ahead, int heading) {
+            if (ahead == NONE) {
+                return 0;
+            }
             int eighths = (heading - ahead) & 7;
             return turn * (eighths > 4 ? 8 - eighths : eighths);
         }
@@ -1067,10 +1068,7 @@ public final class PoleRiver {
             int ahead = NONE;
             for (int k = 1; k < many; k++) {
                 int heading = headingTo((int) cells[k - 1], cells[k]);
-                together += stepMinutes(heading);
-                if (ahead != NONE) {
-                    together += turnMinutes(ahead, heading);
-                }
+                together += stepMinutes(heading) + turnMinutes(ahead, heading);
                 ahead = heading;
             }
             return together;
@@ -1680,16 +1678,17 @@ public final class PoleRiver {
             Arrays.fill(barCells, 0L);
             for (int cell = 0; cell < river.cellCount(); cell++) {
                 int kind = kindOf(cell);
+                int bar = river.owners[cell];
                 if (kind == 2) {
                     openCells |= 1L << cell;
-                } else if (kind == 1) {
-                    barCells[river.owners[cell]] |= 1L << cell;
+                } else if (kind == 1 && bar != NONE) {
+                    barCells[bar] |= 1L << cell;
                 }
             }
             for (int y = 0; y < river.height; y++) {
                 leftEdge |= 1L << (y * river.width);
             }
-            rightEdge = leftEdge << Math.max(0, river.width - 1);
+            rightEdge = leftEdge << (river.width - 1);
         }
 
         /** 2: OPEN, 1: of its BAR, 0: SHUT. */
@@ -1853,20 +1852,20 @@ public final class PoleRiver {
             for (int round = 0; round < CELLS && stale != 0L; round++) {
                 long better = 0L;
                 for (int cell = 0; cell < river.cellCount(); cell++) {
-                    if (((stale >>> cell) & 1L) == 1L && settle(cell, cells)) {
+                    if (((stale >>> cell) & 1L) == 1L && settle(cell)) {
                         better |= 1L << cell;
                     }
                 }
                 stale = spread(better) & cells & ~goal;
             }
-            return minutesOn(from, NONE, cells);
+            return from == to ? 0 : minutesBy(from, soonestHeading(from, NONE));
         }
 
         /** Lessens the minutes from a CELL on for each heading come by; whether any is less. */
-        private boolean settle(int cell, long cells) {
+        private boolean settle(int cell) {
             boolean better = false;
             for (int heading = 0; heading < 8; heading++) {
-                int through = minutesBy(cell, heading, cells);
+                int through = minutesBy(cell, heading);
                 if (through < FAR) {
                     for (int ahead = 0; ahead < 8; ahead++) {
                         int minutes = through + river.turnMinutes(ahead, heading);
@@ -1881,59 +1880,46 @@ public final class PoleRiver {
         }
 
         /** Minutes from a CELL to the end if the step is by such a heading; its turn not counted. */
-        private int minutesBy(int cell, int heading, long cells) {
+        private int minutesBy(int cell, int heading) {
             int next = river.beside(cell, heading);
-            if (next == NONE || ((cells >>> next) & 1L) == 0L) {
+            if (next == NONE || rest[next * 8 + heading] >= FAR) {
                 return FAR;
             }
-            int minutes = rest[next * 8 + heading];
-            return minutes >= FAR ? FAR : minutes + river.stepMinutes(heading);
+            return rest[next * 8 + heading] + river.stepMinutes(heading);
         }
 
-        /** Minutes from a CELL to the end, come to by a heading, or NONE at the beginning. */
-        private int minutesOn(int cell, int ahead, long cells) {
-            if (cell == to) {
-                return 0;
-            }
+        /** From a CELL come to by a heading (or NONE) on: of several as soon to the least CELL. */
+        private int soonestHeading(int cell, int ahead) {
+            int soonest = BY_CELL[0];
             int least = FAR;
-            for (int heading = 0; heading < 8; heading++) {
-                int turning = ahead == NONE ? 0 : river.turnMinutes(ahead, heading);
-                least = Math.min(least, minutesBy(cell, heading, cells) + turning);
+            for (int heading : BY_CELL) {
+                int minutes = minutesBy(cell, heading) + river.turnMinutes(ahead, heading);
+                if (minutes < least) {
+                    soonest = heading;
+                    least = minutes;
+                }
             }
-            return least;
+            return soonest;
         }
 
-        /** Keeps the way by a set A that has one: at each CELL the least of those as soon. */
-        void keepWay(int a) {
-            soonestBy(a);
-            long cells = cellsBy(a);
+        /** Keeps the way by a set A that has one: its MINUTES. */
+        int keepWay(int a) {
+            int minutes = soonestBy(a);
             int cell = from;
             int ahead = NONE;
             keptCells = 1;
             kept[0] = from;
             while (cell != to && keptCells < CELLS) {
-                int heading = leastHeading(cell, ahead, cells);
-                int next = river.beside(cell, heading);
+                ahead = soonestHeading(cell, ahead);
+                int next = river.beside(cell, ahead);
                 if (next == NONE) {
                     break;
                 }
                 cell = next;
-                ahead = heading;
                 kept[keptCells] = cell;
                 keptCells++;
             }
-        }
-
-        private int leastHeading(int cell, int ahead, long cells) {
-            int minutes = minutesOn(cell, ahead, cells);
-            for (int k = 0; k < 7; k++) {
-                int heading = BY_CELL[k];
-                int turning = ahead == NONE ? 0 : river.turnMinutes(ahead, heading);
-                if (minutesBy(cell, heading, cells) + turning == minutes) {
-                    return heading;
-                }
-            }
-            return BY_CELL[7];
+            return minutes;
         }
     }
 

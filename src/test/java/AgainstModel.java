@@ -1701,6 +1701,10 @@ public final class AgainstModel {
             if (due(9, 10)) {
                 takeText(false, ruleText());
             }
+            int late = due(1, 5) ? up(11) : 0;
+            for (int k = 0; k < late; k++) {
+                number("pass(9)", x.pass(9), () -> m.pass(9));
+            }
             for (int k = 0; k < 110 && wrong < 10; k++) {
                 switch (up(5)) {
                     case 0 -> trayOrText();

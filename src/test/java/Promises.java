@@ -620,6 +620,13 @@ public final class Promises {
         refused("a pole that is never right", x, x.sound(0, 5), 7);
         agreed("reads 4, one from both", x, x.sound(0, 4));
         well("tells nothing", x, x.part(0), 500000);
+        // of parts as great what lacks comes to the least set: 24, 24, 4, 4 of 56
+        x = on("size 2 2;row 5 5;bar a takes 1 chance 8 goes 0 comes 0;bar b takes 1 chance 8 goes 0 comes 0;"
+                + "at b 0 0 to 0 0;pole 12;");
+        agreed("b is likelier gone", x, x.sound(0, 5));
+        well("what lacks", x, x.part(0), 428573);
+        well("as great, but not the least", x, x.part(1), 428571);
+        well("less", x, x.part(3), 71428);
         x = on("size 2 2;bar a takes 1 chance 1 goes 0 comes 0;at a 0 0 to 0 0;");
         agreed("reads below 0", x, x.sound(0, -1));
         well("1/16 by 24, 15/16 by 4", x, x.part(1), 285714);
@@ -897,6 +904,22 @@ public final class Promises {
         // 6 and 5: by a: (4 + 24) / 64; 4 and 3: by b: (28 + 4) / 128: in all 28/64 + 16/64
         fraction("worth 1 by a pole that errs", x, 11, 16);
         well("next", x, x.next(0, 2, 2), 0);
+        // by a pole of 15: of 32 6: 1 gone; 5: 30 gone, 1 there; 4: 1, 30; 3: 1 there
+        x = on("size 3 2;row 9 5 9;row 0 5 0;bar a takes 1 chance 8 goes 0 comes 0;bar b takes 3 chance 8 goes 0 comes 0;"
+                + "at a 1 0 to 1 0;at b 1 1 to 1 1;boat draft 5 load 0 straight 10 slant 10 turn 0 lost 0;pole 15;");
+        agreed("worth by a pole of 15", x, x.worth(0, 2, 1));
+        // b by any reading but one that can be both: she is told all: 3/4
+        fraction("by b", x, 3, 4);
+        x = on("size 3 2;row 9 5 9;row 0 5 0;bar a takes 1 chance 8 goes 0 comes 0;bar b takes 1 chance 8 goes 0 comes 0;"
+                + "at a 1 0 to 1 0;at b 1 1 to 1 1;boat draft 5 load 0 straight 10 slant 10 turn 0 lost 0;pole 15;");
+        agreed("worth by a pole of 15", x, x.worth(0, 2, 1));
+        // 6 and 5: by a: 31/64; 4 and 3: by b: 32/128
+        fraction("by a", x, 47, 64);
+        x = on("size 3 3;row 9 5 9;row 9 5 9;row 0 0 0;bar z takes 3 chance 8 goes 0 comes 0;"
+                + "bar a takes 3 chance 8 goes 4 comes 4;bar b takes 3 chance 4 goes 2 comes 0;"
+                + "at z 1 2 to 1 2;at a 1 0 to 1 0;at b 1 1 to 1 1;");
+        well("a BAR that is in no one's way is not sounded", x, x.next(0, 2, 1), 1);
+        well("of two the second is enough", x, x.next(0, 2, 2), 0);
         x = on("size 4 2;row 9 5 5 9;row 9 0 5 0;bar a takes 3 chance 4 goes 0 comes 0;"
                 + "bar b takes 3 chance 8 goes 0 comes 0;bar c takes 3 chance 8 goes 0 comes 0;"
                 + "at a 1 0 to 1 0;at b 2 0 to 2 0;at c 2 1 to 2 1;");
@@ -1073,6 +1096,7 @@ public final class Promises {
         game("stop;go;", x, 0, 3, 0, 1, 0, 0, 0, -1, 0);
         none("a call that fails", x, x.play(0, 9, 0), 1);
         well("leaves what was played", x, x.played(1), 1);
+        due("the last seed", x.play(0, 2, 9999) >= 0, true);
         // wait: each BAR draws; 7440 by 16 is 0: below 4, a COMES; b never COMES
         game("wait 1;go;", x, 0, 0, 1470, 2, 0, 1, 1, 2, 0);
         // off at most the LOAD, for 20 minutes each; all is OPEN then
@@ -1130,6 +1154,17 @@ public final class Promises {
         game("wait 2;go;", x, 0, 1, 2982, 2, 0, 2, 1, 1, 0);
         game("sound a;sound a;when there a 16;go;end;", x, 0, 1, 162, 4, 2, 0, 1, 1, 0);
         game("colour a;when there a 16;stop;end;", x, 0, 3, 5, 3, 0, 0, 1, -1, 0);
+        // a day makes it 31/32 that a is there, and 1/32
+        x = on("size 3 2;row 9 5 9;bar a takes 3 chance 15 goes 0 comes 8;at a 1 0 to 1 0;");
+        game("wait 1;when there a 16;stop;end;off 0;", x, 0, 3, 1440, 3, 0, 1, 1, -1, 0);
+        game("wait 1;when there a 15;stop;end;off 0;", x, 0, 3, 1440, 3, 0, 1, 1, -1, 0);
+        game("wait 1;when gone a 15;stop;end;", x, 0, 3, 1440, 2, 0, 1, 1, -1, 0);
+        game("wait 1;when gone a 16;stop;end;", x, 0, 3, 1440, 3, 0, 1, 1, -1, 0);
+        x = on("size 3 2;row 9 5 9;bar a takes 3 chance 1 goes 8 comes 0;at a 1 0 to 1 0;");
+        game("wait 1;when sure 16;stop;end;", x, 0, 3, 1440, 2, 0, 1, 0, -1, 0);
+        game("wait 1;when sure 15;stop;end;", x, 0, 3, 1440, 3, 0, 1, 0, -1, 0);
+        game("wait 1;when gone a 0;stop;end;", x, 0, 3, 1440, 2, 0, 1, 0, -1, 0);
+        game("wait 1;when there a 1;stop;end;", x, 0, 3, 1440, 2, 0, 1, 0, -1, 0);
         // STAGE of the day that is played to
         x = on("size 3 2;row 9 5 9;row 0 0 0;stage 0 0 less 5 0 0;");
         game("wait 2;go;", x, 0, 2, 2880, 2, 0, 2, 0, -1, 0);
@@ -1233,7 +1268,11 @@ public final class Promises {
         none("how 4", x, x.tally(0, 2, 0, 1, 4), 1);
         none("the last above", x, x.tally(0, 2, 9999, 2, 0), 1);
         due("the last of all", x.tally(0, 2, 9970, 30, 3), 0);
-        well("one behind the other", x, x.tally(0, 2, 9999, 1, 3), 0);
+        well("the last seed alone", x, x.tally(0, 2, 9999, 1, 3), 0);
+        for (int seed = 0; seed < 30; seed++) {
+            int struck = (x.play(0, 2, seed) == 1 ? 1 : 0) + (x.play(0, 2, seed + 1) == 1 ? 1 : 0);
+            well("one behind the other " + seed, x, x.tally(0, 2, seed, 2, 1), struck);
+        }
     }
 
     // Promises 46, 47
