@@ -1809,18 +1809,16 @@ public final class PoleRiver {
             }
         }
 
-        /** MEAN, if search() found a way: its A and MINUTES; the answer is 1,000,000 times it. */
+        /** MEAN, if search() found a way: its A; the answer is 1,000,000 times it. */
         long chooseMean(long[] parts) {
             sumUp(parts);
             chosen = NONE;
             long least = 0L;
             for (int a = 0; a < river.setCount(); a++) {
                 if (hasWay[a]) {
-                    int minutes = soonestBy(a);
-                    long mean = minutes * WHOLE + river.lost * likelyThere(a);
+                    long mean = soonestBy(a) * WHOLE + river.lost * likelyThere(a);
                     if (chosen == NONE || mean < least) {
                         chosen = a;
-                        chosenMinutes = minutes;
                         least = mean;
                     }
                 }

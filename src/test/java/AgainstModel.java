@@ -21,12 +21,14 @@ import java.util.regex.Pattern;
  */
 public final class AgainstModel {
     private static final int NONE = -1;
+    /** No step begins behind so many calls: none takes more than those that are left of 512. */
+    private static final int MOST_CALLS = 380;
     private static int wrong = 0;
     private static int compared = 0;
     private static final Map<String, int[]> seen = new TreeMap<>();
 
     public static void main(String[] args) {
-        int objects = args.length > 0 ? Integer.parseInt(args[0]) : 400;
+        int objects = args.length > 0 ? Integer.parseInt(args[0]) : 700;
         int first = args.length > 1 ? Integer.parseInt(args[1]) : 1;
         for (int k = 0; k < objects && wrong < 10; k++) {
             new Driver(new Random(first + k), "object " + (first + k)).run();
@@ -1418,6 +1420,8 @@ public final class AgainstModel {
         final PoleRiver x = new PoleRiver();
         final Model m = new Model();
         final StringBuilder log = new StringBuilder();
+        // what is answered behind the 512th is free
+        int calls = 0;
 
         Driver(Random random, String run) {
             this.random = random;
@@ -1437,6 +1441,7 @@ public final class AgainstModel {
         }
 
         void same(String call, long got, long want) {
+            calls++;
             if (got != want) {
                 wrong++;
                 System.out.println(run + ": " + call + " answered " + got + ", the model " + want);
@@ -1659,7 +1664,7 @@ public final class AgainstModel {
 
         /** Texts alone, most of them with a FAULT. */
         void runTexts() {
-            for (int k = 0; k < 20 && wrong < 10; k++) {
+            for (int k = 0; k < 20 && wrong < 10 && calls < MOST_CALLS; k++) {
                 log.setLength(0);
                 String text = riverText();
                 takeText(true, due(1, 8) ? text : spoil(text));
@@ -1705,7 +1710,7 @@ public final class AgainstModel {
             for (int k = 0; k < late; k++) {
                 number("pass(9)", x.pass(9), () -> m.pass(9));
             }
-            for (int k = 0; k < 110 && wrong < 10; k++) {
+            for (int k = 0; k < 110 && wrong < 10 && calls < MOST_CALLS; k++) {
                 switch (up(5)) {
                     case 0 -> trayOrText();
                     case 1 -> looks();

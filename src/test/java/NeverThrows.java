@@ -19,9 +19,9 @@ public final class NeverThrows {
     private static int wrong = 0;
 
     public static void main(String[] args) {
-        for (int object = 0; object < 120; object++) {
+        for (int object = 0; object < 400; object++) {
             PoleRiver x = new PoleRiver();
-            for (int k = 0; k < 300; k++) {
+            for (int k = 0; k < 90; k++) {
                 if (RANDOM.nextInt(12) == 0) {
                     text(x);
                 }

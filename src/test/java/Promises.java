@@ -1,5 +1,5 @@
 /** One part for each promise: ordinary calls, the edges that the document names, wrong calls. */
-public final class Promises {
+public final class Promises extends Due {
     /**
      * Six CELLS: 0 1 2 above 3 4 5. CELL 1 is of BAR 0 (a), CELL 4 of BAR 1 (b): depth 5 without, 2
      * with. Parts at first: none 375000, a 375000, b 125000, both 125000.
@@ -8,7 +8,6 @@ public final class Promises {
             + "bar a takes 3 chance 8 goes 4 comes 4;bar b takes 3 chance 4 goes 2 comes 0;"
             + "at a 1 0 to 1 0;at b 1 1 to 1 1;"
             + "boat draft 4 load 3 straight 10 slant 14 turn 1 lost 100;";
-    private static int wrong = 0;
 
     public static void main(String[] args) {
         newObject();
@@ -47,86 +46,11 @@ public final class Promises {
         tallies();
         backToMarks();
         foreignRule();
-        System.out.println(wrong == 0 ? "all promises hold" : wrong + " answers are not as due");
-        System.exit(wrong == 0 ? 0 : 1);
-    }
-
-    private static void due(String what, long got, long want) {
-        if (got != want) {
-            wrong++;
-            System.out.println(what + ": answered " + got + ", due is " + want);
-        }
-    }
-
-    private static void due(String what, boolean got, boolean want) {
-        due(what, got ? 1 : 0, want ? 1 : 0);
-    }
-
-    /** A call without an answer: NONE, and its STATUS. */
-    private static void none(String what, PoleRiver x, long got, int status) {
-        due(what, got, PoleRiver.NONE);
-        due(what + " status", x.status(), status);
-    }
-
-    private static void refused(String what, PoleRiver x, boolean got, int status) {
-        due(what, got, false);
-        due(what + " status", x.status(), status);
-    }
-
-    private static void well(String what, PoleRiver x, long got, long want) {
-        due(what, got, want);
-        due(what + " status", x.status(), 0);
-    }
-
-    private static void agreed(String what, PoleRiver x, boolean got) {
-        due(what, got, true);
-        due(what + " status", x.status(), 0);
-    }
-
-    private static void fraction(String what, PoleRiver x, long top, long bottom) {
-        due(what + " top", x.top(), top);
-        due(what + " bottom", x.bottom(), bottom);
-    }
-
-    private static void feed(PoleRiver x, String text) {
-        for (int k = 0; k < text.length(); k += 20) {
-            int[] v = new int[5];
-            for (int j = 0; j < 20; j++) {
-                int c = k + j < text.length() ? text.charAt(k + j) & 255 : 0;
-                v[j / 4] = v[j / 4] << 8 | c;
-            }
-            x.feed(v[0], v[1], v[2], v[3], v[4]);
-        }
-    }
-
-    private static int river(PoleRiver x, String text) {
-        feed(x, text);
-        return x.river(text.length());
-    }
-
-    private static int rule(PoleRiver x, String text) {
-        feed(x, text);
-        return x.rule(text.length());
-    }
-
-    private static PoleRiver on(String text) {
-        PoleRiver x = new PoleRiver();
-        due("river: " + text, river(x, text) > 0, true);
-        return x;
-    }
-
-    private static void riverFault(String text, int kind, int place) {
-        PoleRiver x = new PoleRiver();
-        none("river " + text, x, river(x, text), 9);
-        due("fault of " + text, x.fault(0), kind);
-        due("its place in " + text, x.fault(1), place);
+        finish();
     }
 
     private static void ruleFault(String text, int kind, int place) {
-        PoleRiver x = on(FORK);
-        none("rule " + text, x, rule(x, text), 9);
-        due("fault of " + text, x.fault(0), kind);
-        due("its place in " + text, x.fault(1), place);
+        ruleFault(FORK, text, kind, place);
     }
 
     // Promise 1
@@ -682,13 +606,6 @@ public final class Promises {
         well("day 5", x, x.told(3), 5);
     }
 
-    private static void lay(PoleRiver x, int tray, int sort, long... cells) {
-        x.tray(tray, sort, cells.length);
-        for (int k = 0; k < cells.length; k++) {
-            x.write(tray, k, cells[k]);
-        }
-    }
-
     // Promises 27, 28, 29
     private static void waysInTrays() {
         PoleRiver x = on(FORK);
@@ -1188,9 +1105,12 @@ public final class Promises {
         String text = "size 3 2;row 9 5 9;bar a takes 1 chance 8 goes 0 comes 0;at a 1 0 to 1 0;pole ";
         int[] poles = {0, 5, 12, 15, 16};
         for (int pole : poles) {
-            PoleRiver x = on(text + pole + ";");
-            rule(x, "sound a;when there a 16;wait 1;end;when gone a 0;wait 2;end;");
+            PoleRiver x = null;
             for (int seed = 0; seed < 200; seed++) {
+                if (seed % 50 == 0) {
+                    x = on(text + pole + ";");
+                    rule(x, "sound a;when there a 16;wait 1;end;when gone a 0;wait 2;end;");
+                }
                 int s = nextDraw(seed);
                 boolean there = s / 8 % 1000 >= 500;
                 int drawn = nextDraw(s) / 8 % 32;
