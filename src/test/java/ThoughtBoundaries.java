@@ -30,6 +30,9 @@ public final class ThoughtBoundaries extends Due {
         depthsWithASet();
         passesAtLeastDraft();
         openAndShut();
+        document("its use");
+        fiveHundredAndTwelveCalls();
+        noneIsOneBelowNought();
         promise(1);
         newObject();
         promise(2);
@@ -350,6 +353,36 @@ public final class ThoughtBoundaries extends Due {
             x.off(1);
             well("OFF, depth " + depth, x, x.open(0), depth >= 7 ? 2 : depth >= 4 ? 1 : 0);
         }
+    }
+
+    // ---- the object's use
+
+    private static void fiveHundredAndTwelveCalls() {
+        says("An object is used for at most 512 calls after it has been made");
+        PoleRiver x = on(TWO);
+        // that took as many calls as there are twenties of bytes, river() and its STATUS
+        int calls = (TWO.length() + 19) / 20 + 2;
+        for (int day = 1; calls + 8 <= 512; day = day % 99 + 1) {
+            if (day == 1) {
+                x.forget();
+                calls++;
+            }
+            well("pass", x, x.pass(1), day);
+            calls += 2;
+        }
+        for (; calls < 507; calls++) {
+            x.told(0);
+        }
+        agreed("forget, the 508th and its STATUS", x, x.forget());
+        well("the 510th, and its STATUS", x, x.surest(0, 2), 2);
+        due("the 512th", x.bottom(), 4);
+    }
+
+    private static void noneIsOneBelowNought() {
+        says("The constants: `NONE = -1`: None.");
+        due("NONE", PoleRiver.NONE, -1);
+        PoleRiver x = on(TWO);
+        due("NONE of a call", x.part(4), PoleRiver.NONE);
     }
 
     // ---- promises 1 to 4

@@ -9,12 +9,12 @@ import java.util.TreeSet;
 class Due {
     private static final Path DOCUMENT = Path.of("..", "shared", "DOC.md");
     private static final Set<String> TESTED = new TreeSet<>();
-    private static final String ALL = document();
+    private static final String ALL = readDocument();
     private static String part = ALL;
     private static String sentence = "";
     private static int wrong = 0;
 
-    private static String document() {
+    private static String readDocument() {
         try {
             return Files.exists(DOCUMENT) ? Files.readString(DOCUMENT, StandardCharsets.UTF_8) : "";
         } catch (IOException e) {
@@ -32,6 +32,13 @@ class Due {
     /** What follows is of this promise. */
     static void promise(int k) {
         open("Promise " + k, "## Promise " + k + ": ", "## ");
+    }
+
+    /** What follows is of the document, but of no Terms and no promise. */
+    static void document(String name) {
+        TESTED.add(name);
+        sentence = "";
+        part = ALL;
     }
 
     private static void open(String name, String begin, String end) {
