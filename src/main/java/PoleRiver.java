@@ -1366,6 +1366,20 @@ public final class PoleRiver {
             System.arraycopy(other.numbers, 0, numbers, 0, LINES);
             System.arraycopy(other.partners, 0, partners, 0, LINES);
         }
+
+        /** A line more, if there is room: its number, or NONE. */
+        int add(int doing) {
+            int line = lines;
+            if (line >= LINES) {
+                return NONE;
+            }
+            does[line] = doing;
+            bars[line] = NONE;
+            numbers[line] = 0;
+            partners[line] = NONE;
+            lines++;
+            return line;
+        }
     }
 
     private static final class RuleReader {
@@ -1397,16 +1411,15 @@ public final class PoleRiver {
         }
 
         private boolean takeEnd() {
-            if (deep == 0) {
+            // there are lines for every STEP and its end, so that only deep refuses
+            int line = deep == 0 ? NONE : rule.add(Rule.END);
+            if (line == NONE) {
                 return text.failHere();
             }
             deep--;
             int opening = opened[deep];
-            int line = rule.lines;
-            rule.does[line] = Rule.END;
             rule.partners[line] = opening;
             rule.partners[opening] = line;
-            rule.lines++;
             text.advance();
             return text.takeSign();
         }
@@ -1416,18 +1429,14 @@ public final class PoleRiver {
             if (does == NONE) {
                 return text.failHere();
             }
-            if (rule.steps >= STEPS) {
+            int line = rule.steps >= STEPS ? NONE : rule.add(does);
+            if (line == NONE) {
                 return text.fail(6);
             }
             boolean opens = does == Rule.WHEN || does == Rule.LOOP;
             if (opens && deep >= NESTED) {
                 return text.fail(7);
             }
-            int line = rule.lines;
-            rule.does[line] = does;
-            rule.bars[line] = NONE;
-            rule.numbers[line] = 0;
-            rule.partners[line] = NONE;
             text.advance();
             if (!takeRest(line, does) || !text.takeSign()) {
                 return false;
@@ -1436,7 +1445,6 @@ public final class PoleRiver {
                 opened[deep] = line;
                 deep++;
             }
-            rule.lines++;
             rule.steps++;
             return true;
         }
@@ -2117,7 +2125,7 @@ public final class PoleRiver {
 
         private int lineBehindEnd(int line) {
             int opening = rule.partners[line];
-            if (rule.does[opening] == Rule.LOOP) {
+            if (opening >= 0 && opening < line && rule.does[opening] == Rule.LOOP) {
                 turnsLeft[opening]--;
                 if (turnsLeft[opening] > 0) {
                     return opening + 1;
